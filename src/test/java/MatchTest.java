@@ -14,6 +14,7 @@ public final class MatchTest {
         furtherAlternatives();
         wrongRulesAndPlaces();
         longestInput();
+        readAgain();
         CHECK.end();
     }
 
@@ -45,6 +46,8 @@ public final class MatchTest {
         found("a=%S\"A\"", "aA", "1-2");
         found("a=\"[`@{\"", "[`@{{`@[", "0-4");
         found("a=\"abc\"", "ab", "");
+        found("a=\"aZ\"", "AzaZ", "0-2 2-4");
+        found("a=\"Az\"", "aZAz", "0-2 2-4");
         found("a=\"123456789012\"", "1234567890123", "0-12");
         found("a=\"a;b\"", "a;b", "0-3");
         found("a=\" \"", " x ", "0-1 2-3");
@@ -165,5 +168,37 @@ public final class MatchTest {
         CHECK.due("the whole", 1, () -> x.matches(0, 0, 24) ? 1 : 0);
         CHECK.due("longest", 24, () -> x.longest(0, 0));
         CHECK.due("longest at the end", AbnfChart.NONE, () -> x.longest(0, 24));
+        AbnfChart most = Check.made("a=" + "a/".repeat(48) + "*\"x\"", "x".repeat(24));
+        CHECK.due("as many elements as there may be", 100, () -> most.count(1));
+        CHECK.due("all their pieces", 325, () -> most.pieces(0));
+    }
+
+    /** Nothing of a grammar before may be left in the next one. */
+    private static void readAgain() {
+        AbnfChart x = Check.made("a=\"x\" \"y\" 2(\"z\" / b)\nb=\"w\"", "xyzw");
+        CHECK.due("first grammar", 4, () -> x.longest(0, 0));
+        String[] grammars = {"b=\"y\" / c\nb=/2*3%d122-123", "a=c c\nc=[\"x\"] / d", "d=*(\"x\" / \"z\" / \"y\")",
+            "e=%x78 / %s\"y\" e", "f=1*2%x78-79 f / \"z\""};
+        int[] elements = {9, 12, 10, 6, 7};
+        int[] pieces = {1, 6, 11, 1, 3};
+        for (int k = 0; k < 20; k++) {
+            int which = k % grammars.length;
+            x.erase();
+            Check.write(x, grammars[which]);
+            x.read();
+            CHECK.due("elements of " + grammars[which], elements[which], () -> x.count(1));
+            CHECK.due("pieces of " + grammars[which], pieces[which], () -> x.pieces(0));
+        }
+        x.erase();
+        String full = "\"a\" ".repeat(58);
+        for (int k = 0; k < 5; k++) {
+            Check.write(x, "a=" + full);
+            CHECK.due("read of many strings again", 1, x::read);
+            CHECK.due("elements of many strings again", 60, () -> x.count(1));
+            x.erase();
+        }
+        Check.write(x, "a=\"xyzw\"");
+        CHECK.due("read of one string", 1, x::read);
+        CHECK.due("the one string matches", 4, () -> x.longest(0, 0));
     }
 }
