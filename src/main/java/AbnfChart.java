@@ -822,7 +822,7 @@ public final class AbnfChart {
                 return 0;
             }
             int ends = 0;
-            for (int k = i; k <= input.size; k++) {
+            for (int k = i; k <= input.size && places >> k != 0; k++) {
                 if ((places >> k & 1) == 1) {
                     ends |= part.ends[k];
                 }

@@ -8,6 +8,7 @@ public final class InputTest {
         giveRefusesWrongCounts();
         giveRefusesCodesAbove127();
         giveRefusesMoreThan24();
+        dropCounts();
         dropEmptiesTheInput();
         inputAndGrammarAreApart();
         CHECK.end();
@@ -37,16 +38,22 @@ public final class InputTest {
         CHECK.due("nothing given", 0, x::drop);
     }
 
+    /** "one of them is above 127": each code, as each one of the n lowest bytes, and above them. */
     private static void giveRefusesCodesAbove127() {
-        AbnfChart x = new AbnfChart();
         for (int code = 0; code < 256; code++) {
-            long eight = code;
-            long fine = code <= 127 ? 1 : 0;
-            CHECK.due("give code " + code, fine == 1 ? 1 : Check.ILLEGAL_ARGUMENT, () -> x.give(eight, 1));
-            CHECK.due("then drop", fine, x::drop);
-            long high = eight << 56;
-            CHECK.due("give highest code " + code, fine == 1 ? 8 : Check.ILLEGAL_ARGUMENT, () -> x.give(high, 8));
-            CHECK.due("then drop", fine * 8, x::drop);
+            boolean fine = code <= 127;
+            AbnfChart x = new AbnfChart();
+            for (int k = 0; k < 8; k++) {
+                long eight = (long) code << 8 * k;
+                int below = k;
+                String where = "code " + code + " as byte " + k + ": ";
+                CHECK.due(where + "give 8", fine ? 8 : Check.ILLEGAL_ARGUMENT, () -> x.give(eight, 8));
+                CHECK.due(where + "drop", fine ? 8 : 0, x::drop);
+                CHECK.due(where + "give up to it", fine ? k + 1 : Check.ILLEGAL_ARGUMENT, () -> x.give(eight, below + 1));
+                CHECK.due(where + "drop", fine ? k + 1 : 0, x::drop);
+                CHECK.due(where + "give those below", k == 0 ? Check.ILLEGAL_ARGUMENT : k, () -> x.give(eight, below));
+                CHECK.due(where + "drop", k, x::drop);
+            }
         }
     }
 
@@ -59,6 +66,20 @@ public final class InputTest {
         CHECK.due("128 at 24", Check.ILLEGAL_ARGUMENT, () -> x.give(128, 1));
         CHECK.due("n = 9 at 24", Check.ILLEGAL_ARGUMENT, () -> x.give(0, 9));
         CHECK.due("24 matched", 24, () -> x.longest(0, 0));
+    }
+
+    private static void dropCounts() {
+        for (int length = 0; length <= 24; length++) {
+            AbnfChart x = Check.made("a=*%d0-127", "x".repeat(length));
+            int most = length;
+            CHECK.due("longest of " + length, length, () -> x.longest(0, 0));
+            CHECK.due("place behind the end of " + length, Check.INDEX_OUT_OF_BOUNDS, () -> x.longest(0, most + 1));
+            CHECK.due("drop of " + length, length, x::drop);
+            CHECK.due("drop again", 0, x::drop);
+            CHECK.due("longest of nothing", 0, () -> x.longest(0, 0));
+            CHECK.due("place behind nothing", Check.INDEX_OUT_OF_BOUNDS, () -> x.longest(0, 1));
+            CHECK.due("the grammar stays", 1, () -> x.count(0));
+        }
     }
 
     private static void dropEmptiesTheInput() {

@@ -13,112 +13,95 @@ public final class MatchTest {
         rulesNotTold();
         furtherAlternatives();
         wrongRulesAndPlaces();
+        fewestMatches();
+        emptyInput();
         longestInput();
+        everyPieceOfTheLongestInput();
+        nothingIsLeftOfTheInputBefore();
+        nothingIsLeftOfTheGrammarBefore();
         readAgain();
         CHECK.end();
     }
 
-    /** The pieces of the first rule as a table: "i-j i-j ..", every other pair is no match. */
-    private static void found(String grammar, String input, String pieces) {
-        AbnfChart x = Check.made(grammar, input);
-        String where = grammar.replace("\n", "\\n") + " on " + input + ": ";
-        String padded = " " + pieces + " ";
-        int total = 0;
-        for (int i = 0; i <= input.length(); i++) {
-            int last = AbnfChart.NONE;
-            for (int j = i; j <= input.length(); j++) {
-                int from = i;
-                int to = j;
-                boolean due = padded.contains(" " + i + "-" + j + " ");
-                CHECK.due(where + "matches " + i + ", " + j, due ? 1 : 0, () -> x.matches(0, from, to) ? 1 : 0);
-                total += due ? 1 : 0;
-                last = due ? j : last;
-            }
-            int from = i;
-            CHECK.due(where + "longest " + i, last, () -> x.longest(0, from));
-        }
-        CHECK.due(where + "pieces", total, () -> x.pieces(0));
-    }
-
     private static void strings() {
-        found("a=\"aB\"", "aBABabAb", "0-2 2-4 4-6 6-8");
-        found("a=%s\"aB\"", "aBABabAb", "0-2");
-        found("a=%S\"A\"", "aA", "1-2");
-        found("a=\"[`@{\"", "[`@{{`@[", "0-4");
-        found("a=\"abc\"", "ab", "");
-        found("a=\"aZ\"", "AzaZ", "0-2 2-4");
-        found("a=\"Az\"", "aZAz", "0-2 2-4");
-        found("a=\"123456789012\"", "1234567890123", "0-12");
-        found("a=\"a;b\"", "a;b", "0-3");
-        found("a=\" \"", " x ", "0-1 2-3");
+        CHECK.found("a=\"aB\"", "aBABabAb", "0-2 2-4 4-6 6-8");
+        CHECK.found("a=%s\"aB\"", "aBABabAb", "0-2");
+        CHECK.found("a=%S\"A\"", "aA", "1-2");
+        CHECK.found("a=\"[`@{\"", "[`@{{`@[", "0-4");
+        CHECK.found("a=\"abc\"", "ab", "");
+        CHECK.found("a=\"aZ\"", "AzaZ", "0-2 2-4");
+        CHECK.found("a=\"Az\"", "aZAz", "0-2 2-4");
+        CHECK.found("a=\"123456789012\"", "1234567890123", "0-12");
+        CHECK.found("a=\"a;b\"", "a;b", "0-3");
+        CHECK.found("a=\" \"", " x ", "0-1 2-3");
     }
 
     private static void values() {
-        found("a=%d97", "aA", "0-1");
-        found("a=%x41", "aA", "1-2");
-        found("a=%x4a.4B.4c.4D", "JKLMJKLm", "0-4");
-        found("a=%d65-67", "@ABCDabc", "1-2 2-3 3-4");
-        found("a=%d65-65", "AB", "0-1");
-        found("a=%d0", "\0a", "0-1");
-        found("a=%x7F", "\u007f~", "0-1");
-        found("a=%d0-127", "\0\u007f\n", "0-1 1-2 2-3");
-        found("a=%d010", "\n", "0-1");
-        found("a=%d65", "", "");
+        CHECK.found("a=%d97", "aA", "0-1");
+        CHECK.found("a=%x41", "aA", "1-2");
+        CHECK.found("a=%x4a.4B.4c.4D", "JKLMJKLm", "0-4");
+        CHECK.found("a=%d65-67", "@ABCDabc", "1-2 2-3 3-4");
+        CHECK.found("a=%d65-65", "AB", "0-1");
+        CHECK.found("a=%d0", "\0a", "0-1");
+        CHECK.found("a=%x7F", "\u007f~", "0-1");
+        CHECK.found("a=%d0-127", "\0\u007f\n", "0-1 1-2 2-3");
+        CHECK.found("a=%d010", "\n", "0-1");
+        CHECK.found("a=%d65", "", "");
     }
 
     private static void sequencesAndAlternatives() {
-        found("a=\"x\" \"y\" \"z\"", "xyzxy", "0-3");
-        found("a=\"x\" / \"xy\" / \"y\"", "xy", "0-1 0-2 1-2");
-        found("a=\"x\" / \"x\"", "x", "0-1");
-        found("a=\"x\" \"y\" / \"z\"", "xyz", "0-2 2-3");
-        found("a=b c\nb=\"x\" / \"xx\"\nc=\"x\" / \"xx\"", "xxxx", "0-2 0-3 0-4 1-3 1-4 2-4");
+        CHECK.found("a=\"x\" \"y\" \"z\"", "xyzxy", "0-3");
+        CHECK.found("a=\"x\" / \"xy\" / \"y\"", "xy", "0-1 0-2 1-2");
+        CHECK.found("a=\"x\" / \"x\"", "x", "0-1");
+        CHECK.found("a=\"x\" \"y\" / \"z\"", "xyz", "0-2 2-3");
+        CHECK.found("a=b c\nb=\"x\" / \"xx\"\nc=\"x\" / \"xx\"", "xxxx", "0-2 0-3 0-4 1-3 1-4 2-4");
     }
 
     private static void optionsAndGroups() {
-        found("a=[\"x\"]", "xy", "0-0 0-1 1-1 2-2");
-        found("a=\"x\" [\"y\" / \"z\"] \"w\"", "xywxwxzw", "0-3 3-5 5-8");
-        found("a=\"x\" (\"y\" / \"z\") \"w\"", "xywxwxzw", "0-3 5-8");
-        found("a=(\"x\" / \"y\") (\"x\" / \"y\")", "xyz", "0-2");
-        found("a=[[\"x\"]]", "x", "0-0 0-1 1-1");
+        CHECK.found("a=[\"x\"]", "xy", "0-0 0-1 1-1 2-2");
+        CHECK.found("a=\"x\" [\"y\" / \"z\"] \"w\"", "xywxwxzw", "0-3 3-5 5-8");
+        CHECK.found("a=\"x\" (\"y\" / \"z\") \"w\"", "xywxwxzw", "0-3 5-8");
+        CHECK.found("a=(\"x\" / \"y\") (\"x\" / \"y\")", "xyz", "0-2");
+        CHECK.found("a=[[\"x\"]]", "x", "0-0 0-1 1-1");
     }
 
     private static void repetitions() {
-        found("a=2\"x\"", "xxx", "0-2 1-3");
-        found("a=1*2\"x\"", "xxx", "0-1 0-2 1-2 1-3 2-3");
-        found("a=*1\"x\"", "xy", "0-0 0-1 1-1 2-2");
-        found("a=2*\"x\"", "xxxx", "0-2 0-3 0-4 1-3 1-4 2-4");
-        found("a=*\"x\"", "xyx", "0-0 0-1 1-1 2-2 2-3 3-3");
-        found("a=0\"x\"", "x", "0-0 1-1");
-        found("a=*0\"x\"", "x", "0-0 1-1");
-        found("a=9\"x\"", "xxxxxxxxxx", "0-9 1-10");
-        found("a=2(\"x\" / \"yy\")", "xyyx", "0-3 1-4");
-        found("a=1*2(\"x\" \"y\")", "xyxyxy", "0-2 0-4 2-4 2-6 4-6");
-        found("a=\"x\" 2b\nb=\"y\" / \"yy\"", "xyyyy", "0-3 0-4 0-5");
+        CHECK.found("a=2\"x\"", "xxx", "0-2 1-3");
+        CHECK.found("a=1*2\"x\"", "xxx", "0-1 0-2 1-2 1-3 2-3");
+        CHECK.found("a=*1\"x\"", "xy", "0-0 0-1 1-1 2-2");
+        CHECK.found("a=2*\"x\"", "xxxx", "0-2 0-3 0-4 1-3 1-4 2-4");
+        CHECK.found("a=*\"x\"", "xyx", "0-0 0-1 1-1 2-2 2-3 3-3");
+        CHECK.found("a=0\"x\"", "x", "0-0 1-1");
+        CHECK.found("a=*0\"x\"", "x", "0-0 1-1");
+        CHECK.found("a=9\"x\"", "xxxxxxxxxx", "0-9 1-10");
+        CHECK.found("a=2(\"x\" / \"yy\")", "xyyx", "0-3 1-4");
+        CHECK.found("a=1*2(\"x\" \"y\")", "xyxyxy", "0-2 0-4 2-4 2-6 4-6");
+        CHECK.found("a=\"x\" 2b\nb=\"y\" / \"yy\"", "xyyyy", "0-3 0-4 0-5");
     }
 
     private static void emptyPieces() {
-        found("a=\"\"", "xy", "0-0 1-1 2-2");
-        found("a=3[\"x\"]", "xx", "0-0 0-1 0-2 1-1 1-2 2-2");
-        found("a=5\"\"", "x", "0-0 1-1");
-        found("a=9*(*\"x\")", "xx", "0-0 0-1 0-2 1-1 1-2 2-2");
-        found("a=*(*(*\"x\"))", "xx", "0-0 0-1 0-2 1-1 1-2 2-2");
-        found("a=b b\nb=[\"x\"]", "x", "0-0 0-1 1-1");
+        CHECK.found("a=\"\"", "xy", "0-0 1-1 2-2");
+        CHECK.found("a=3[\"x\"]", "xx", "0-0 0-1 0-2 1-1 1-2 2-2");
+        CHECK.found("a=5\"\"", "x", "0-0 1-1");
+        CHECK.found("a=9*(*\"x\")", "xx", "0-0 0-1 0-2 1-1 1-2 2-2");
+        CHECK.found("a=*(*(*\"x\"))", "xx", "0-0 0-1 0-2 1-1 1-2 2-2");
+        CHECK.found("a=b b\nb=[\"x\"]", "x", "0-0 0-1 1-1");
     }
 
     private static void rulesThatBeginWithThemselves() {
-        found("a=a \"x\" / \"x\"", "xxx", "0-1 0-2 0-3 1-2 1-3 2-3");
-        found("a=a a / \"x\"", "xxx", "0-1 0-2 0-3 1-2 1-3 2-3");
-        found("a=b \"y\" / \"z\"\nb=a \"x\"", "zxyxy", "0-1 0-3 0-5");
-        found("a=[a] \"x\"", "xx", "0-1 0-2 1-2");
-        found("a=*a \"x\"", "xx", "0-1 0-2 1-2");
-        found("a=a", "x", "");
-        found("a=a / \"x\"", "x", "0-1");
-        found("a=a \"x\"", "xx", "");
-        found("a=1*a", "x", "");
-        found("a=*a", "x", "0-0 1-1");
-        found("a=b\nb=c\nc=a / \"x\" a / \"\"", "xx", "0-0 0-1 0-2 1-1 1-2 2-2");
-        found("a=\"(\" a \")\" / \"\"", "(())()", "0-0 0-4 1-1 1-3 2-2 3-3 4-4 4-6 5-5 6-6");
-        found("a=a \"+\" b / b\nb=\"1\"", "1+1+1", "0-1 0-3 0-5 2-3 2-5 4-5");
+        CHECK.found("a=a \"x\" / \"x\"", "xxx", "0-1 0-2 0-3 1-2 1-3 2-3");
+        CHECK.found("a=a a / \"x\"", "xxx", "0-1 0-2 0-3 1-2 1-3 2-3");
+        CHECK.found("a=b \"y\" / \"z\"\nb=a \"x\"", "zxyxy", "0-1 0-3 0-5");
+        CHECK.found("a=[a] \"x\"", "xx", "0-1 0-2 1-2");
+        CHECK.found("a=*a \"x\"", "xx", "0-1 0-2 1-2");
+        CHECK.found("a=a", "x", "");
+        CHECK.found("a=a / \"x\"", "x", "0-1");
+        CHECK.found("a=a \"x\"", "xx", "");
+        CHECK.found("a=1*a", "x", "");
+        CHECK.found("a=*a", "x", "0-0 1-1");
+        CHECK.found("a=b\nb=c\nc=a / \"x\" a / \"\"", "xx", "0-0 0-1 0-2 1-1 1-2 2-2");
+        CHECK.found("a=\"(\" a \")\" / \"\"", "(())()", "0-0 0-4 1-1 1-3 2-2 3-3 4-4 4-6 5-5 6-6");
+        CHECK.found("a=a \"+\" b / b\nb=\"1\"", "1+1+1", "0-1 0-3 0-5 2-3 2-5 4-5");
     }
 
     private static void rulesNotTold() {
@@ -127,13 +110,13 @@ public final class MatchTest {
         CHECK.due("longest of a rule not told", AbnfChart.NONE, () -> x.longest(2, 1));
         CHECK.due("pieces of a rule not told", 0, () -> x.pieces(3));
         CHECK.due("pieces of the told one", 3, () -> x.pieces(0));
-        found("a=\"x\" b", "x", "");
-        found("a=0b", "x", "0-0 1-1");
+        CHECK.found("a=\"x\" b", "x", "");
+        CHECK.found("a=0b", "x", "0-0 1-1");
     }
 
     private static void furtherAlternatives() {
-        found("a=\"x\"\na=/\"y\"\nA=/\"z\" \"z\"", "xyzz", "0-1 1-2 2-4");
-        found("a=b\nb=\"x\"\na=/a \"y\"", "xyy", "0-1 0-2 0-3");
+        CHECK.found("a=\"x\"\na=/\"y\"\nA=/\"z\" \"z\"", "xyzz", "0-1 1-2 2-4");
+        CHECK.found("a=b\nb=\"x\"\na=/a \"y\"", "xyy", "0-1 0-2 0-3");
     }
 
     private static void wrongRulesAndPlaces() {
@@ -160,6 +143,53 @@ public final class MatchTest {
         CHECK.due("longest at the end", 3, () -> x.longest(1, 3));
     }
 
+    /** "These are the fewest matches for which all that is so": a rule that only needs itself has none. */
+    private static void fewestMatches() {
+        String[] nothing = {"a=a", "a=(a)", "a=a/a", "a=a a", "a=2a", "a=1*a", "a=9*9a", "a=b\nb=a", "a=b\nb=c\nc=a b/a",
+            "a=\"\" a", "a=a \"\"", "a=\"x\" a", "a=a \"x\"", "a=[a] a", "a=*a a", "a=[\"x\"] a [\"x\"]", "a=1*3a/b a\nb=[a]"};
+        for (String grammar : nothing) {
+            CHECK.found(grammar, "xx", "");
+            CHECK.found(grammar, "", "");
+        }
+        String[] onlyEmpty = {"a=[a]", "a=*a", "a=0a", "a=*0a", "a=1*[a]", "a=9*9[a]", "a=a/\"\"", "a=a a/\"\"", "a=b\nb=[a]"};
+        for (String grammar : onlyEmpty) {
+            CHECK.found(grammar, "xx", "0-0 1-1 2-2");
+            CHECK.found(grammar, "", "0-0");
+        }
+        CHECK.found("a=[a] [a] \"x\"", "xxx", "0-1 0-2 0-3 1-2 1-3 2-3");
+        CHECK.found("a=2a/\"x\"", "xxx", "0-1 0-2 0-3 1-2 1-3 2-3");
+        CHECK.found("a=3a/\"x\"", "xxxx", "0-1 0-3 1-2 1-4 2-3 3-4");
+        CHECK.found("a=2*3a \"y\"/\"x\"", "xxyxy", "0-1 0-3 0-5 1-2 3-4");
+    }
+
+    private static void emptyInput() {
+        CHECK.found("a=\"\"", "", "0-0");
+        CHECK.found("a=\"x\"", "", "");
+        CHECK.found("a=%d0", "", "");
+        CHECK.found("a=[\"x\"]", "", "0-0");
+        CHECK.found("a=*\"x\"", "", "0-0");
+        CHECK.found("a=1*\"x\"", "", "");
+        CHECK.found("a=9[\"x\"]", "", "0-0");
+        CHECK.found("a=\"\" \"\"", "", "0-0");
+    }
+
+    private static void everyPieceOfTheLongestInput() {
+        String[] grammars = {"a=a a/\"x\"", "a=[a] \"x\"", "a=\"x\" *a", "a=2*9(a/\"x\")/\"x\"", "a=b\nb=c\nc=a \"x\"/\"x\""};
+        for (String grammar : grammars) {
+            AbnfChart x = Check.made(grammar, "x".repeat(24));
+            for (int i = 0; i <= 24; i++) {
+                for (int j = i; j <= 24; j++) {
+                    int from = i;
+                    int to = j;
+                    CHECK.due(grammar + " from " + i + " to " + j, i < j ? 1 : 0, () -> x.matches(0, from, to) ? 1 : 0);
+                }
+                int from = i;
+                CHECK.due(grammar + " longest " + i, i < 24 ? 24 : AbnfChart.NONE, () -> x.longest(0, from));
+            }
+            CHECK.due(grammar + " pieces", 300, () -> x.pieces(0));
+        }
+    }
+
     private static void longestInput() {
         AbnfChart x = Check.made("a=a a / \"x\"\nb=*%d0-127\nc=9*\"x\"", "x".repeat(24));
         CHECK.due("all pieces but the empty ones", 300, () -> x.pieces(0));
@@ -171,6 +201,40 @@ public final class MatchTest {
         AbnfChart most = Check.made("a=" + "a/".repeat(48) + "*\"x\"", "x".repeat(24));
         CHECK.due("as many elements as there may be", 100, () -> most.count(1));
         CHECK.due("all their pieces", 325, () -> most.pieces(0));
+    }
+
+    /** Matches of an input before must not hold one another up where rules begin with themselves. */
+    private static void nothingIsLeftOfTheInputBefore() {
+        String[] grammars = {"a=a/\"x\"", "a=[a] \"x\"", "a=b\nb=a/\"x\"", "a=a a/\"x\"", "a=1*a/\"x\"", "a=b/\"x\"\nb=c\nc=(a)"};
+        for (String grammar : grammars) {
+            AbnfChart x = Check.made(grammar, "xx");
+            CHECK.due(grammar + " on xx", 1, () -> x.matches(0, 0, 1) && x.matches(0, 1, 2) ? 1 : 0);
+            x.drop();
+            Check.give(x, "yy");
+            CHECK.due(grammar + " on yy", 0, () -> x.pieces(0));
+            x.give('x', 1);
+            CHECK.due(grammar + " on yyx", 1, () -> x.pieces(0));
+            CHECK.due(grammar + " on yyx at 2", 3, () -> x.longest(0, 2));
+            x.drop();
+            CHECK.due(grammar + " on nothing", 0, () -> x.pieces(0));
+            Check.give(x, "yx");
+            CHECK.due(grammar + " on yx", 1, () -> x.pieces(0));
+        }
+    }
+
+    private static void nothingIsLeftOfTheGrammarBefore() {
+        String[] grammars = {"a=a/\"x\"", "a=[a] \"x\"", "a=*\"x\"", "b=c\nc=d b\nd=%d0-127", "a=a a/\"x\""};
+        for (String grammar : grammars) {
+            AbnfChart x = Check.made(grammar, "xx");
+            x.pieces(0);
+            x.erase();
+            Check.write(x, "a=a/a a/b\nb=c/a\nc=a b");
+            x.read();
+            for (int rule = 0; rule < 3; rule++) {
+                int number = rule;
+                CHECK.due("rule " + rule + " matches nothing behind " + grammar, 0, () -> x.pieces(number));
+            }
+        }
     }
 
     /** Nothing of a grammar before may be left in the next one. */

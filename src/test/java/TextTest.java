@@ -9,7 +9,9 @@ public final class TextTest {
         writeRefusesWrongCounts();
         writeRefusesWrongCharacters();
         writeRefusesMoreThan240();
+        eraseCounts();
         eraseLeavesTheGrammar();
+        answersUpToThe512thCall();
         CHECK.end();
     }
 
@@ -59,16 +61,22 @@ public final class TextTest {
         CHECK.due("nothing written", 0, x::erase);
     }
 
+    /** "one of them is no character": each code, as each one of the n lowest bytes, and above them. */
     private static void writeRefusesWrongCharacters() {
-        AbnfChart x = new AbnfChart();
         for (int code = 0; code < 256; code++) {
-            long eight = code;
             boolean fine = code == 10 || code >= 32 && code <= 126;
-            CHECK.due("write code " + code, fine ? 1 : Check.ILLEGAL_ARGUMENT, () -> x.write(eight, 1));
-            CHECK.due("then erase", fine ? 1 : 0, x::erase);
-            long high = eight << 56 | 0x0020202020202020L;
-            CHECK.due("write highest code " + code, fine ? 8 : Check.ILLEGAL_ARGUMENT, () -> x.write(high, 8));
-            CHECK.due("then erase", fine ? 8 : 0, x::erase);
+            AbnfChart x = new AbnfChart();
+            for (int k = 0; k < 8; k++) {
+                long eight = 0x2020202020202020L & ~(255L << 8 * k) | (long) code << 8 * k;
+                int below = k;
+                String where = "code " + code + " as byte " + k + ": ";
+                CHECK.due(where + "write 8", fine ? 8 : Check.ILLEGAL_ARGUMENT, () -> x.write(eight, 8));
+                CHECK.due(where + "erase", fine ? 8 : 0, x::erase);
+                CHECK.due(where + "write up to it", fine ? k + 1 : Check.ILLEGAL_ARGUMENT, () -> x.write(eight, below + 1));
+                CHECK.due(where + "erase", fine ? k + 1 : 0, x::erase);
+                CHECK.due(where + "write those below", k == 0 ? Check.ILLEGAL_ARGUMENT : k, () -> x.write(eight, below));
+                CHECK.due(where + "erase", k, x::erase);
+            }
         }
     }
 
@@ -87,6 +95,16 @@ public final class TextTest {
         CHECK.due("write behind erase", 1, () -> x.write(' ', 1));
     }
 
+    private static void eraseCounts() {
+        for (int length = 0; length <= 240; length++) {
+            AbnfChart x = Check.written("x".repeat(length));
+            CHECK.due("erase of " + length, length, x::erase);
+            CHECK.due("erase again", 0, x::erase);
+            CHECK.due("read of nothing", Check.ILLEGAL_ARGUMENT, x::read);
+            CHECK.due("place in nothing", 0, x::place);
+        }
+    }
+
     private static void eraseLeavesTheGrammar() {
         AbnfChart x = Check.made("a=\"x\" b", "x");
         CHECK.due("erase", 7, x::erase);
@@ -101,5 +119,22 @@ public final class TextTest {
         Check.write(y, "b=\"QQQ\" ; QQQQQQ");
         CHECK.due("strings stay behind erase", 3, () -> y.longest(0, 0));
         CHECK.due("values stay behind erase", 5, () -> y.longest(0, 3));
+    }
+
+    /** "An object is used for at most 512 calls after it has been made": 64 rounds of eight. */
+    private static void answersUpToThe512thCall() {
+        AbnfChart x = new AbnfChart();
+        for (int k = 0; k < 64; k++) {
+            boolean fine = k % 2 == 0;
+            String round = "round " + k + ": ";
+            CHECK.due(round + "write", 8, () -> x.write(Check.pack(fine ? "a=*\"xy\"\n" : "a=*\"xy\"!"), 8));
+            CHECK.due(round + "read", fine ? 1 : Check.ILLEGAL_ARGUMENT, x::read);
+            CHECK.due(round + "place", fine ? AbnfChart.NONE : 7, x::place);
+            CHECK.due(round + "give", 4, () -> x.give(Check.pack("xyXY"), 4));
+            CHECK.due(round + "pieces", fine ? 8 : Check.NO_SUCH_ELEMENT, () -> x.pieces(0));
+            CHECK.due(round + "count", fine ? 4 : 0, () -> x.count(1));
+            CHECK.due(round + "drop", 4, x::drop);
+            CHECK.due(round + "erase", 8, x::erase);
+        }
     }
 }
