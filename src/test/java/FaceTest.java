@@ -17,13 +17,27 @@ public final class FaceTest {
         "give(long,int)", "drop()", "matches(int,int,int)", "longest(int,int)", "pieces(int)", "count(int)",
     };
 
+    /** Which exceptions each method tells of, beside those that tell of none. */
+    private static final String[] THROWS = {
+        "write IllegalArgumentException IllegalStateException",
+        "read IllegalArgumentException IllegalStateException",
+        "rule NoSuchElementException",
+        "give IllegalArgumentException IllegalStateException",
+        "matches NoSuchElementException IndexOutOfBoundsException",
+        "longest NoSuchElementException IndexOutOfBoundsException",
+        "pieces NoSuchElementException",
+        "count IndexOutOfBoundsException",
+    };
+
     public static void main(String[] args) {
-        List<String> due = new ArrayList<>(Arrays.asList(DUE));
-        Collections.sort(due);
+        List<String> due = sorted(DUE);
         List<String> open = openMembers();
         CHECK.due("the members " + open + " are those of the document", 1, () -> open.equals(due) ? 1 : 0);
         CHECK.due("public and final", 1, () -> isPublicFinal(AbnfChart.class.getModifiers()) ? 1 : 0);
         CHECK.due("matches answers a boolean", 1, () -> answersDue() ? 1 : 0);
+        CHECK.same("what the methods throw", sorted(THROWS).toString(), sorted(thrown()).toString());
+        CHECK.due("NONE is a constant int", 1, () -> isConstant("NONE") ? 1 : 0);
+        CHECK.due("classes inside are static and not public", 1, () -> insideDue() ? 1 : 0);
         CHECK.end();
     }
 
@@ -64,6 +78,46 @@ public final class FaceTest {
         for (Method method : AbnfChart.class.getDeclaredMethods()) {
             Class<?> due = method.getName().equals("matches") ? boolean.class : int.class;
             if (Modifier.isPublic(method.getModifiers()) && method.getReturnType() != due) {
+                return false;
+            }
+        }
+        return true;
+    }
+
+    private static List<String> sorted(String[] rows) {
+        List<String> all = new ArrayList<>(Arrays.asList(rows));
+        Collections.sort(all);
+        return all;
+    }
+
+    private static String[] thrown() {
+        List<String> rows = new ArrayList<>();
+        for (Method method : AbnfChart.class.getDeclaredMethods()) {
+            if (Modifier.isPublic(method.getModifiers()) && method.getExceptionTypes().length > 0) {
+                StringBuilder row = new StringBuilder(method.getName());
+                for (Class<?> type : method.getExceptionTypes()) {
+                    row.append(' ').append(type.getSimpleName());
+                }
+                rows.add(row.toString());
+            }
+        }
+        return rows.toArray(new String[0]);
+    }
+
+    private static boolean isConstant(String name) {
+        for (Field field : AbnfChart.class.getDeclaredFields()) {
+            int modifiers = field.getModifiers();
+            if (field.getName().equals(name)) {
+                return field.getType() == int.class && isPublicFinal(modifiers) && Modifier.isStatic(modifiers);
+            }
+        }
+        return false;
+    }
+
+    private static boolean insideDue() {
+        for (Class<?> inside : AbnfChart.class.getDeclaredClasses()) {
+            int modifiers = inside.getModifiers();
+            if (!Modifier.isStatic(modifiers) || Modifier.isPublic(modifiers) || Modifier.isProtected(modifiers)) {
                 return false;
             }
         }
