@@ -9,6 +9,8 @@ import java.util.regex.Pattern;
  */
 final class PlainReader {
     static final int WELL = AbnfChart.NONE;
+    /** A long has bits for the places before and behind so many characters, and for no more. */
+    static final int MOST_TEXT = 62;
 
     private static final Pattern BLANK = Pattern.compile(" *(;.*)?");
     private static final String LETTERS = "abcdefghijklmnopqrstuvwxyzABCDEFGHIJKLMNOPQRSTUVWXYZ";

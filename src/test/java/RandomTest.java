@@ -3,7 +3,8 @@ import java.util.List;
 
 /**
  * Made grammars, written with all kinds of gaps, against a matcher that knows them as trees and
- * tries every way to divide a piece; and the same texts spoilt.
+ * tries every way to divide a piece; and the same texts spoilt, the short ones against a reader that
+ * tries all ways.
  */
 public final class RandomTest {
     private static final Check CHECK = new Check();
@@ -349,6 +350,9 @@ public final class RandomTest {
         String shown = text.replace("\n", "\\n");
         AbnfChart x = Check.written(text);
         long answer = Check.answer(x::read);
+        if (answer != Check.ILLEGAL_STATE && text.length() <= PlainReader.MOST_TEXT) {
+            CHECK.due("place in " + shown + " as a plain reader's", PlainReader.placeIn(text), x::place);
+        }
         if (answer >= 0) {
             CHECK.due("rules of " + shown, answer, () -> x.count(0));
             CHECK.due("place in " + shown, AbnfChart.NONE, x::place);
